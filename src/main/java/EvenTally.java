@@ -34,7 +34,7 @@ public final class EvenTally {
         now = new State();
         kept = new State();
         isKept = false;
-        reader = new Reader(now.tape);
+        reader = new Reader();
         balance = new Balance();
         routes = new Routes();
         actor = new Actor();
@@ -58,7 +58,7 @@ public final class EvenTally {
         if (now.towns >= MOST_TOWNS) {
             return FULL;
         }
-        int fault = reader.read(now.signs);
+        int fault = reader.read(now.tape, now.signs);
         now.signs = 0;
         if (fault >= 0) {
             return FAULT_FROM - fault;
@@ -636,14 +636,15 @@ public final class EvenTally {
         private int place;
         private int number;
 
-        Reader(int[] itsTape) {
-            tape = itsTape;
+        Reader() {
+            tape = new int[MOST_SIGNS];
             draft = new Town();
         }
 
         /** The fault, or -1: then the draft is the town. */
-        int read(int itsSize) {
-            size = Math.min(itsSize, tape.length);
+        int read(int[] itsTape, int itsSize) {
+            System.arraycopy(itsTape, 0, tape, 0, MOST_SIGNS);
+            size = itsSize;
             place = 0;
             draft.clear();
             for (int i = 0; i < MOST_CLAUSES; i++) {
@@ -710,17 +711,20 @@ public final class EvenTally {
         }
 
         private boolean readPart(int opened) {
-            if (opened < MOST_OPENED && take('!')) {
-                if (!readPart(opened + 1)) {
-                    return false;
-                }
+            int inside = opened;
+            while (inside < MOST_OPENED && take('!')) {
+                inside++;
+            }
+            boolean isRead;
+            if (inside < MOST_OPENED && take('(')) {
+                isRead = readEither(inside + 1) && take(')');
+            } else {
+                isRead = readTest();
+            }
+            for (int i = opened; i < inside; i++) {
                 draft.put(Town.NOT);
-                return true;
             }
-            if (opened < MOST_OPENED && take('(')) {
-                return readEither(opened + 1) && take(')');
-            }
-            return readTest();
+            return isRead;
         }
 
         private boolean readTest() {
@@ -1176,20 +1180,21 @@ public final class EvenTally {
             for (int i = 0; i < KINDS && at > STREET && BODIES[at * ACTS + act] == 0; i++) {
                 at = ABOVE[at];
             }
-            int above = ABOVE[at];
-            int deeper = depth + 1;
-            int body = BODIES[at * ACTS + act];
+            return runBody(BODIES[at * ACTS + act], ABOVE[at], x, depth + 1);
+        }
+
+        private int runBody(int body, int above, int x, int depth) {
             note(body);
             switch (body) {
                 case 1: return x + number;
-                case 2: return run(kind, COUNTS, x, deeper) - v;
-                case 3: return run(kind, PAYS, x, deeper) * 2;
-                case 11: return run(above, COUNTS, x * 3, deeper);
-                case 21: return -run(above, PAYS, x, deeper);
-                case 31: return run(above, TELLS, x, deeper) ^ 7;
-                case 41: return run(above, TELLS, x - 1, deeper) + run(kind, COUNTS, 2, deeper);
-                case 51: return run(above, COUNTS, x, deeper) ^ number;
-                case 61: return run(above, PAYS, x, deeper) + v;
+                case 2: return run(kind, COUNTS, x, depth) - v;
+                case 3: return run(kind, PAYS, x, depth) * 2;
+                case 11: return run(above, COUNTS, x * 3, depth);
+                case 21: return -run(above, PAYS, x, depth);
+                case 31: return run(above, TELLS, x, depth) ^ 7;
+                case 41: return run(above, TELLS, x - 1, depth) + run(kind, COUNTS, 2, depth);
+                case 51: return run(above, COUNTS, x, depth) ^ number;
+                case 61: return run(above, PAYS, x, depth) + v;
                 default: return 0;
             }
         }
