@@ -359,7 +359,6 @@ public final class EvenTally {
         int tallies;
         final int[] toldIn;
         final int[] toldOut;
-        private final int[] facts;
 
         State() {
             kind = new int[MOST_STREETS];
@@ -371,7 +370,6 @@ public final class EvenTally {
             holding = new Town();
             toldIn = new int[MOST_STREETS];
             toldOut = new int[MOST_STREETS];
-            facts = new int[Town.FACTS];
         }
 
         void copyFrom(State other) {
@@ -415,7 +413,7 @@ public final class EvenTally {
             if (kind[street] == FREE) {
                 return MOST_TALLIED;
             }
-            int sum = clausesOf(street, ALLOWS);
+            int sum = holding.sum(ALLOWS, this, street);
             if (kind[street] == SUNDAY && today % 7 == 0) {
                 sum += v[street];
             }
@@ -423,27 +421,18 @@ public final class EvenTally {
         }
 
         int fine(int street) {
-            int sum = 10 + clausesOf(street, FINES);
+            int sum = 10 + holding.sum(FINES, this, street);
             return isUnder(kind[street], HELPED) ? sum / 2 : sum;
         }
 
         int step(int street) {
-            int sum = 1 + clausesOf(street, STEPS);
+            int sum = 1 + holding.sum(STEPS, this, street);
             return kind[street] == WIDE ? sum - 1 : sum;
         }
 
         int pays(int street) {
             int beyond = Math.abs(uneven(street)) - allowed(street);
             return beyond > 0 ? fine(street) * beyond : 0;
-        }
-
-        private int clausesOf(int street, int word) {
-            facts[Town.NUMBER] = street;
-            facts[Town.KIND] = kind[street];
-            facts[Town.UNEVEN] = Math.abs(uneven(street));
-            facts[Town.DAY] = today % 7;
-            facts[Town.LEADS] = Integer.bitCount(leads[street]);
-            return holding.sum(word, facts);
         }
 
         boolean isOpen(int one, int other) {
@@ -515,10 +504,10 @@ public final class EvenTally {
 
     /** The clauses of a town, each with its condition as a row of codes, operands ahead of operators. */
     private static final class Town {
-        static final int NUMBER = 0, KIND = 1, UNEVEN = 2, DAY = 3, LEADS = 4, FACTS = 5;
-        static final int LESS = 0, SAME = 1, MORE = 2, RELATIONS = 3;
-        static final int NOT = -1, BOTH = -2, EITHER = -3;
+        private static final int NUMBER = 0, KIND = 1, UNEVEN = 2, DAY = 3, LEADS = 4, FACTS = 5;
+        private static final int LESS = 0, SAME = 1, RELATIONS = 3;
         private static final int NUMBERS = 100;
+        static final int NOT = -1, BOTH = -2, EITHER = -3;
 
         private int clauses;
         private final int[] word;
@@ -526,6 +515,7 @@ public final class EvenTally {
         private final int[] from;
         private int codes;
         private final int[] code;
+        private final int[] facts;
 
         Town() {
             word = new int[MOST_CLAUSES];
@@ -533,6 +523,7 @@ public final class EvenTally {
             from = new int[MOST_CLAUSES + 1];
             // A code comes of a sign of the tape at least, so that these are enough.
             code = new int[MOST_SIGNS];
+            facts = new int[FACTS];
         }
 
         void copyFrom(Town other) {
@@ -576,10 +567,16 @@ public final class EvenTally {
             }
         }
 
-        int sum(int ofWord, int[] facts) {
+        /** What the clauses of the word that hold of the street come to. */
+        int sum(int ofWord, State state, int street) {
+            facts[NUMBER] = street;
+            facts[KIND] = state.kind[street];
+            facts[UNEVEN] = Math.abs(state.uneven(street));
+            facts[DAY] = state.today % 7;
+            facts[LEADS] = Integer.bitCount(state.leads[street]);
             int sum = 0;
             for (int i = 0; i < clauses; i++) {
-                if (word[i] == ofWord && holds(from[i], from[i + 1], facts)) {
+                if (word[i] == ofWord && holds(from[i], from[i + 1])) {
                     sum += n[i];
                 }
             }
@@ -587,7 +584,7 @@ public final class EvenTally {
         }
 
         /** The operands that wait are bits, the newest lowest; nesting of 5 keeps them under 16. */
-        private boolean holds(int start, int end, int[] facts) {
+        private boolean holds(int start, int end) {
             int waiting = 0;
             for (int i = start; i < end; i++) {
                 int newest = waiting & 1;
@@ -602,13 +599,13 @@ public final class EvenTally {
                         waiting = waiting >> 1 | newest;
                         break;
                     default:
-                        waiting = waiting << 1 | (passes(code[i], facts) ? 1 : 0);
+                        waiting = waiting << 1 | (passes(code[i]) ? 1 : 0);
                 }
             }
             return (waiting & 1) == 1;
         }
 
-        private boolean passes(int test, int[] facts) {
+        private boolean passes(int test) {
             int fact = test / (RELATIONS * NUMBERS);
             if (fact < 0 || fact >= FACTS) {
                 return false;
@@ -627,8 +624,8 @@ public final class EvenTally {
      * reading fails, the place is the fault.
      */
     private static final class Reader {
-        private static final String FACT_SIGNS = "skudl";
-        private static final String RELATION_SIGNS = "<=>";
+        // In the order in which a town numbers facts and relations.
+        private static final String FACT_SIGNS = "skudl", RELATION_SIGNS = "<=>";
 
         final Town draft;
         private final int[] tape;

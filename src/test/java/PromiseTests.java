@@ -21,6 +21,7 @@ public final class PromiseTests {
         p9Go();
         p10Tally();
         p11Cost();
+        p11Flows();
         p11Kinds();
         p12Gate();
         p13Fresh();
@@ -290,6 +291,12 @@ public final class PromiseTests {
         due("7 fines together", y.of(0, 6), 31);
         due("7 steps together", y.of(0, 7), 44);
         due("7 alloweds together", y.of(0, 5), 65);
+        EvenTally k = kinds(6, 0, 3, 5);
+        town(k, "fine 1 k=6;fine 2 k=0;fine 3 k>4;fine 4 k<4");
+        int[] byKind = {14, 16, 14, 6};
+        for (int i = 0; i < 4; i++) {
+            due("7 clauses by kind, of " + i, k.of(i, 6), byKind[i]);
+        }
         EvenTally z = kinds(0, 6);
         leads(z, "01");
         town(z, "fine 1 l=1");
@@ -461,6 +468,45 @@ public final class PromiseTests {
         due("11 dearest, cheapest", y.cost(1), 9999 * 20);
     }
 
+    private static void p11Flows() {
+        EvenTally x = leads(streets(4), "01 02 12 13");
+        uneven(x, 2, 1, -1, -2);
+        due("11 all the same way", x.cost(0), 4);
+        x = leads(streets(4), "02 03 12");
+        town(x, "step 3 s=1;step 5 s=0&l<2");
+        uneven(x, 1, 1, -1, -1);
+        due("11 the nearest is another one's only one", x.cost(0), 5);
+        due("11 paid or not", x.cost(1), 5);
+        x = leads(streets(3), "02 12");
+        uneven(x, 1, 1, -2);
+        due("11 two to one", x.cost(0), 2);
+        x = leads(streets(3), "01 02");
+        uneven(x, 2, -1, -1);
+        due("11 one to two", x.cost(0), 2);
+        due("11 one to two, paid or not", x.cost(1), 2);
+        uneven(x, 0, 0, -5);
+        due("11 too few in all", x.cost(0), -5);
+        due("11 too few in all, after that", x.cost(1), 50);
+        uneven(x, 5, -1, -2);
+        due("11 left over", x.cost(0), -5);
+        due("11 left over, paid", x.cost(1), 23);
+        town(x, "allow 1 s<9");
+        due("11 left over, each keeps one or less", x.cost(0), 4);
+        EvenTally all = streets(7);
+        for (int i = 0; i < 7; i++) {
+            for (int j = 0; j < 7; j++) {
+                all.lead(i, j, true);
+            }
+        }
+        uneven(all, -9, 4, -1, 3, -3, 1, 5);
+        due("11 all leads, least", all.cost(0), 13);
+        due("11 all leads, cheapest", all.cost(1), 13);
+        due("11 all leads, the last needed", all.need(6, 4), 0);
+        uneven(all, 0, 0, 0, 0, 0, -3, 3);
+        due("11 all leads, the last of all", all.cost(0), 3);
+        due("11 all leads, the last of all needed", all.need(6, 5), 3);
+    }
+
     private static void p11Kinds() {
         EvenTally x = leads(kinds(0, 6, 0), "01 12");
         uneven(x, 2, 0, -2);
@@ -589,6 +635,7 @@ public final class PromiseTests {
             due("15 other " + no, x.way(1, no), -1);
         }
         due("15 no street at all", x.way(5, 5), -1);
+        due("15 by the first street", leads(streets(3), "10 02").way(1, 2), 2);
         town(x, "step 9 l=2");
         due("15 round is cheaper", leads(x, "14").way(1, 4), 9);
         due("15 wide for nothing", leads(kinds(5, 5, 5), "01 12").way(0, 2), 0);
@@ -923,7 +970,15 @@ public final class PromiseTests {
             x.tell(8, 8);
             x.act(0, 1, 1);
         }
-        due("26 kinds come back", new EvenTally().undo(), -3);
+        EvenTally y = new EvenTally();
+        y.image();
+        y.street(4, 4);
+        y.undo();
+        y.street(0, 1);
+        y.street(1, 2);
+        y.image();
+        y.undo();
+        due("26 kinds and numbers are kept", y.of(0, 0) * 1000 + y.of(0, 1) * 100 + y.of(1, 0) * 10 + y.of(1, 1), 112);
     }
 
     private static void p27Count() {
