@@ -91,11 +91,9 @@ public final class EvenTally {
     }
 
     public int lead(int one, int other, boolean is) {
-        if (!now.has(one) || !now.has(other)) {
-            return NONE;
-        }
-        if (one == other) {
-            return BAD;
+        int refusal = refusalOfTwo(one, other);
+        if (refusal < 0) {
+            return refusal;
         }
         int was = now.leads[one] >> other & 1;
         if (is) {
@@ -139,7 +137,7 @@ public final class EvenTally {
     // ---- goings
 
     public int go(int one, int other, int n) {
-        if (!now.has(one) || !now.has(other)) {
+        if (!now.hasBoth(one, other)) {
             return FAR_NONE;
         }
         if (n < 1 || n > MOST_GOING) {
@@ -187,11 +185,9 @@ public final class EvenTally {
     }
 
     public int fresh(int one, int other) {
-        if (!now.has(one) || !now.has(other)) {
-            return NONE;
-        }
-        if (one == other) {
-            return BAD;
+        int refusal = refusalOfTwo(one, other);
+        if (refusal < 0) {
+            return refusal;
         }
         balance.load(now);
         int was = balance.solve(true);
@@ -200,11 +196,9 @@ public final class EvenTally {
     }
 
     public int need(int one, int other) {
-        if (!now.has(one) || !now.has(other)) {
-            return NONE;
-        }
-        if (one == other) {
-            return BAD;
+        int refusal = refusalOfTwo(one, other);
+        if (refusal < 0) {
+            return refusal;
         }
         balance.load(now);
         int was = balance.solve(true);
@@ -215,7 +209,7 @@ public final class EvenTally {
     // ---- ways, errands
 
     public int way(int one, int other) {
-        if (!now.has(one) || !now.has(other)) {
+        if (!now.hasBoth(one, other)) {
             return NONE;
         }
         routes.load(now);
@@ -240,7 +234,7 @@ public final class EvenTally {
     }
 
     public long ways(int one, int other, int n) {
-        if (!now.has(one) || !now.has(other) || n < 0 || n > MOST_WAYS) {
+        if (!now.hasBoth(one, other) || n < 0 || n > MOST_WAYS) {
             return NO;
         }
         routes.load(now);
@@ -248,7 +242,7 @@ public final class EvenTally {
     }
 
     public long stray(int one, int other, int n, int part) {
-        if (!now.has(one) || !now.has(other) || n < 0 || n > MOST_STRAY || part < 0 || part > 1) {
+        if (!now.hasBoth(one, other) || n < 0 || n > MOST_STRAY || part < 0 || part > 1) {
             return NO;
         }
         routes.load(now);
@@ -332,6 +326,14 @@ public final class EvenTally {
         }
     }
 
+    /** Below 0 if there are not two streets of these numbers. */
+    private int refusalOfTwo(int one, int other) {
+        if (!now.hasBoth(one, other)) {
+            return NONE;
+        }
+        return one == other ? BAD : 0;
+    }
+
     private static boolean isUnder(int kind, int above) {
         int at = kind;
         for (int i = 0; i < KINDS && at >= 0 && at < KINDS; i++) {
@@ -391,6 +393,10 @@ public final class EvenTally {
 
         boolean has(int street) {
             return street >= 0 && street < streets;
+        }
+
+        boolean hasBoth(int one, int other) {
+            return has(one) && has(other);
         }
 
         /** The caller sees to it that there is room. The place may hold what an undone street left. */
