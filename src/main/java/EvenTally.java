@@ -448,7 +448,12 @@ public final class EvenTally {
             if (other < one && isUnder(kind[one], ONEWAY)) {
                 return false;
             }
-            return kind[other] != SHUT || today % (v[other] + 2) != 0;
+            return !isShut(other);
+        }
+
+        private boolean isShut(int street) {
+            int days = v[street] + 2;
+            return kind[street] == SHUT && days > 0 && today % days == 0;
         }
 
         int openFrom(int one) {
