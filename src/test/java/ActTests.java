@@ -258,7 +258,7 @@ public final class ActTests {
 
     private static void allIsAsTheImage() {
         Bench.sentence("THE IMAGE: all that there is (but THE IMAGE and THE TRACE).");
-        for (int part = 0; part <= 11; part++) {
+        for (int part = 0; part <= 13; part++) {
             EvenTally x = imaged(busy());
             change(x, part);
             Bench.due("part " + part + " is another one", Bench.all(x).equals(Bench.all(busy())) ? 1 : 0, 0);
@@ -280,6 +280,8 @@ public final class ActTests {
             case 8: Bench.feed(x, "x"); x.town(); break;
             case 9: x.tell(0, 0); break;
             case 10: x.tell(-1, 0); break;
+            case 11: x.tell(-1, 0); x.tell(4, 5); break;
+            case 12: x.town(); Bench.feed(x, "step 3 s<1"); break;
             default: x.go(1, 2, 9);
         }
     }

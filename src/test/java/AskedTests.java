@@ -10,7 +10,9 @@ public final class AskedTests {
         costsOfAGoing();
         leastByNone();
         leastWithinAllowed();
+        leastTogether();
         cheapest();
+        allTheLeadsThereCanBe();
         gates();
         gatesOf9999();
         newLeads();
@@ -188,6 +190,20 @@ public final class AskedTests {
         }
     }
 
+    private static void leastTogether() {
+        Bench.sentence("LEAST: the least cost, together");
+        // The cheapest going of the one street takes what the other one alone can't do without.
+        EvenTally x = Bench.uneven(Bench.leads(Bench.streets(4), "02 03 12"), 1, 1, -1, -1);
+        Bench.withTown(x, "step 3 s=1");
+        Bench.due("the first goes to 3", x.cost(0), 1 + 4);
+        EvenTally y = Bench.uneven(Bench.leads(Bench.streets(5), "02 04 43 12"), 1, 1, -1, -1, 0);
+        Bench.withTown(y, "step 9 s=1;step 5 s=4");
+        Bench.due("the first goes to 3 by 4", y.cost(0), 1 + 6 + 10);
+        Bench.due("cheapest", y.cost(1), 1 + 6 + 10);
+        EvenTally z = Bench.uneven(Bench.leads(Bench.streets(4), "02 03 13"), 2, 1, -1, -2);
+        Bench.due("three go", z.cost(0), 3);
+    }
+
     private static void cheapest() {
         Bench.sentence("CHEAPEST: the least of what GOINGS cost and what all PAY behind them, together");
         Bench.due("no street", new EvenTally().cost(1), 0);
@@ -215,6 +231,36 @@ public final class AskedTests {
         Bench.due("what -1", x.cost(-1), -1);
         Bench.due("what MIN", x.cost(MIN), -1);
         Bench.due("what MAX", x.cost(MAX), -1);
+    }
+
+    private static void allTheLeadsThereCanBe() {
+        Bench.sentence("STREETS are numbered from 0 on, 7 at most");
+        EvenTally x = Bench.allLeads(Bench.streets(7));
+        for (int one = 0; one < 7; one++) {
+            for (int other = 0; other < 7; other++) {
+                if (one != other) {
+                    int[] by = new int[7];
+                    by[one] = 2;
+                    by[other] = -2;
+                    Bench.uneven(x, by);
+                    String told = " from " + one + " to " + other + " of all leads";
+                    Bench.due("cheapest" + told, x.cost(1), 2);
+                    Bench.due("need" + told, x.need(one, other), 2);
+                }
+            }
+        }
+        EvenTally y = Bench.allLeads(Bench.streets(7));
+        for (int one = 0; one < 7; one++) {
+            int[] by = {-1, -1, -1, -1, -1, -1, -1};
+            by[one] = 6;
+            Bench.uneven(y, by);
+            Bench.due("least from " + one + " to all", y.cost(0), 6);
+            for (int i = 0; i < 7; i++) {
+                by[i] = -by[i];
+            }
+            Bench.uneven(y, by);
+            Bench.due("least from all to " + one, y.cost(0), 6);
+        }
     }
 
     private static void gates() {
@@ -308,6 +354,8 @@ public final class AskedTests {
         Bench.due("one street costs nothing", x.way(3, 3), 0);
         Bench.leads(x, "60");
         Bench.due("home costs nothing with a round", x.way(3, 3), 0);
+        Bench.due("round to the first", x.way(3, 0), 4 * 793);
+        Bench.due("round by the first", x.way(6, 5), 6 * 793);
         for (int no : new int[] {-1, 7, MIN, MAX}) {
             Bench.due("one " + no, x.way(no, 0), -1);
             Bench.due("other " + no, x.way(0, no), -1);
@@ -355,6 +403,8 @@ public final class AskedTests {
         for (int k = 0; k <= 6; k++) {
             Bench.due("not back, " + k, x.errands(0, 4, k), -5);
             Bench.due("one of two, " + k, x.errands(0, 6, k), -5);
+            Bench.due("itself and one by none, " + k, x.errands(0, 5, k), -5);
+            Bench.due("all, of which one is by none, " + k, x.errands(2, 15, k), -5);
         }
         EvenTally ring = Bench.leads(Bench.streets(7), "01 12 23 34 45 56 60");
         Bench.withTown(ring, "step 99 s<9;step 99 s<9;step 99 s<9;step 99 s<9;step 99 s<9;step 99 s<9;step 99 s<9;step 99 s<9");

@@ -1,12 +1,14 @@
 import java.io.IOException;
 import java.lang.reflect.Constructor;
 import java.lang.reflect.Field;
+import java.lang.reflect.InvocationTargetException;
 import java.lang.reflect.Method;
 import java.lang.reflect.Modifier;
 import java.nio.file.Files;
 import java.nio.file.Path;
 import java.util.List;
 import java.util.Map;
+import java.util.Random;
 import java.util.Set;
 import java.util.TreeMap;
 import java.util.TreeSet;
@@ -34,6 +36,7 @@ public final class LanguageTests {
         insides();
         words(source);
         sizes(source);
+        wildCalls();
         System.out.println("LanguageTests: " + wrong + " wrong");
         if (wrong != 0) {
             System.exit(1);
@@ -131,6 +134,43 @@ public final class LanguageTests {
         for (String line : code.split("\n")) {
             // Rows are made in constructors, as fields, so that calls make nothing.
             need(!line.matches(".*\\bnew\\b.*") || line.matches(" +\\w+ = new \\w+(\\[[^\\]]*\\]|\\(\\));"), "rule 12: " + line);
+        }
+    }
+
+    /** Rule 7, far beyond 512 calls: what is answered then is free, but nothing may be thrown. */
+    private static void wildCalls() {
+        int[] some = {0, 0, 0, 1, 1, 2, 3, 4, 5, 6, 6, 7, 8, 9, 10, 20, 21, 98, 99, 100, 127, 128, 999, 1000, 9999, 10000,
+            -1, -1, -2, -128, Integer.MIN_VALUE, Integer.MIN_VALUE + 1, Integer.MAX_VALUE, Integer.MAX_VALUE - 1};
+        String[] towns = {"fine 9 s<9;step 9 u>1;allow 9 l>1", "step 1 !(k=1)|d<3;;", "((((((", "allow 99 !!!!!u<9"};
+        Random random = new Random(7);
+        for (int run = 0; run < 40; run++) {
+            EvenTally x = new EvenTally();
+            for (int call = 0; call < 2000; call++) {
+                String text = random.nextInt(60) == 0 ? towns[random.nextInt(towns.length)] : "";
+                for (char sign : text.toCharArray()) {
+                    x.feed(sign);
+                }
+                wildCall(x, random, some);
+            }
+        }
+    }
+
+    private static void wildCall(EvenTally x, Random random, int[] some) {
+        Method[] methods = EvenTally.class.getMethods();
+        Method method = methods[random.nextInt(methods.length)];
+        if (method.getDeclaringClass() != EvenTally.class) {
+            return;
+        }
+        Class<?>[] types = method.getParameterTypes();
+        Object[] with = new Object[types.length];
+        for (int i = 0; i < with.length; i++) {
+            int n = random.nextInt(3) == 0 ? some[random.nextInt(some.length)] : random.nextInt(7);
+            with[i] = types[i] == boolean.class ? (Object) (n > 0) : (Object) n;
+        }
+        try {
+            method.invoke(x, with);
+        } catch (IllegalAccessException | InvocationTargetException thrown) {
+            need(false, "rule 7: " + method + " of " + List.of(with) + ": " + thrown.getCause());
         }
     }
 

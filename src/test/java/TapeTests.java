@@ -10,6 +10,8 @@ public final class TapeTests {
     public static void main(String[] args) {
         aTapeOf100();
         aTapeThatIsFull();
+        aTapeBehindALongerOne();
+        aTapeBehindLongFaults();
         whereATownEndsTooEarly();
         clausesFrom1();
         clausesUpTo10();
@@ -83,6 +85,37 @@ public final class TapeTests {
         Bench.due("it is not there", x.count(3), 100);
         Bench.due("nor is it read", x.town(), -110);
         Bench.due("behind a town there is room", x.feed('f'), 1);
+    }
+
+    private static void aTapeBehindALongerOne() {
+        Bench.sentence("THE TAPE, which is empty then (by a FAULT, too)");
+        // Each shorter tape reads as it does on a new object: nothing of the longer one is left.
+        String text = "fine 12 s=34&!(u<56);step 78 k>90";
+        for (String longer : new String[] {text, text + "x", "9".repeat(100), "((((((((((((((((((((((((((((((((((("}) {
+            for (int size = 0; size <= text.length(); size++) {
+                EvenTally x = new EvenTally(), y = new EvenTally();
+                int towns = Bench.town(x, longer) == 0 ? 1 : 0;
+                Bench.feed(x, text.substring(0, size));
+                Bench.feed(y, text.substring(0, size));
+                int alone = y.town();
+                Bench.due("the first " + size + " behind " + longer, x.town(), alone == 0 ? towns : alone);
+            }
+        }
+        EvenTally x = Bench.streets(2);
+        Bench.due("a longer fault", Bench.town(x, "allow 1 s=123"), -22);
+        Bench.due("a shorter town", Bench.town(x, "allow 1 s=1"), 0);
+        Bench.due("its number is 1", x.of(1, 5), 1);
+    }
+
+    private static void aTapeBehindLongFaults() {
+        Bench.sentence("-10 less the FAULT (the one that held holds)");
+        EvenTally x = Bench.withTown(Bench.streets(1), "fine 5 s=0");
+        for (int i = 0; i < 4; i++) {
+            Bench.due("a long fault", Bench.town(x, "fine 1 s=1|" + "s=1&".repeat(21) + "s=1;"), -109);
+            Bench.due("the one that held holds", x.of(0, 6), 15);
+        }
+        Bench.due("a town behind all of them", Bench.town(x, "step 1 s=0&!s=1;step 2 s=1"), 1);
+        Bench.due("it holds", x.of(0, 7), 2);
     }
 
     private static void whereATownEndsTooEarly() {
