@@ -11,7 +11,8 @@ public final class RefusalTests {
     private static final int[] NO_STREET = {-1, 7, 8, MIN, MAX};
 
     public static void main(String[] args) {
-        Bench.sentence("REFUSALS, of several the first one told. They change nothing.");
+        Bench.sentence("REFUSALS, of several the first one told: NONE there is no such STREET, KIND, what, part, k, i; "
+            + "BAD a number is not as told; STATE as told; FULL. They change nothing.");
         constants();
         feed();
         town();
