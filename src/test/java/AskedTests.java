@@ -202,6 +202,10 @@ public final class AskedTests {
         Bench.due("cheapest", y.cost(1), 1 + 6 + 10);
         EvenTally z = Bench.uneven(Bench.leads(Bench.streets(4), "02 03 13"), 2, 1, -1, -2);
         Bench.due("three go", z.cost(0), 3);
+        // The first street's one, sent to 2 as the nearest, is had back: it has to send two to 3.
+        EvenTally back = Bench.uneven(Bench.leads(Bench.streets(4), "03 02 12"), 1, 2, -2, -2);
+        Bench.withTown(back, "allow 1 s<2");
+        Bench.due("the first goes to 3 alone", back.cost(0), 4);
     }
 
     private static void cheapest() {
@@ -226,6 +230,10 @@ public final class AskedTests {
             Bench.withTown(y, "step " + more[i] + " s=0");
             Bench.due("a helped one takes it, step " + (more[i] + 1), y.cost(1), less[i]);
         }
+        // A second going would cost ten, and as much as one of both pays less the other one would pay more.
+        EvenTally once = Bench.uneven(Bench.leads(Bench.streets(3), "10"), -1, 2, -2);
+        Bench.withTown(once, "step 9 s=1");
+        Bench.due("one going, and no second one", once.cost(1), 10 + 10 + 20);
         Bench.due("all at the most", Bench.uneven(Bench.streets(7), 9999, 9999, 9999, 9999, 9999, 9999, 9999).cost(1), 699930);
         Bench.due("what 2", x.cost(2), -1);
         Bench.due("what -1", x.cost(-1), -1);
